@@ -16,6 +16,7 @@ public final class LowFallTest {
         digging();
         cracking();
         strengths();
+        strengthsAtTheirEnds();
         crossing();
         rainAndRunoff();
         carriedFlow();
@@ -32,6 +33,7 @@ public final class LowFallTest {
         shares();
         rows();
         images();
+        imagesOfTwoCities();
         copies();
         counts();
         System.out.println(wrong == 0 ? "promises: " + looked + " answers as due" : "promises: " + wrong + " wrong");
@@ -522,6 +524,16 @@ public final class LowFallTest {
         days(x, 2);
         due("the builder owes", x.count(11), 20 * 1 + 40 * 25);
         due("the town owes", x.count(12), 10 * 2);
+        // What is dug to the ton is opened as well.
+        x = tenderCity();
+        x.set(11, 1, 1); // dig 102, pull 68, on it 34 and beside 17
+        x.route(21, 11, 62, 2); // dig 120, pull 80
+        x.take(1, 0);
+        x.gangs(0, 0);
+        x.gangs(1, 3);
+        days(x, 1);
+        due("dug to the ton", x.lineOf(1, 1, 3) - x.lineOf(1, 1, 2), 0);
+        due("cracked by 20", x.count(12), 40 * 20);
         // A dam is no depth: it pulls nothing.
         x.begin();
         x.set(0, 2, 9);
@@ -606,6 +618,36 @@ public final class LowFallTest {
         x.set(60, 0, 301 - 1);
         x.set(40, 0, 299);
         due("lime, depth 100", x.bears(2, 0), x.lineOf(2, 0, 4) + 50);
+    }
+
+    private static void strengthsAtTheirEnds() {
+        promise = "20 to 22, at their ends";
+        LowFall x = new LowFall();
+        x.set(0, 0, 300);
+        x.route(0, 1, 200, 1);
+        x.take(1, 0); // lime, depth 100
+        x.set(20, 0, 300);
+        x.route(20, 21, 199, 1);
+        x.take(1, 0); // lime, depth 101
+        x.set(41, 0, 300);
+        x.route(40, 41, 1, 1);
+        x.take(1, 1); // new, depth 300
+        x.route(60, 61, 99, 1);
+        x.take(1, 0); // lime, wet by one ton
+        for (int k = 0; k < 4; k++) x.gangs(k, 4);
+        x.kiln(9999);
+        days(x, 1);
+        x.hours(23);
+        x.set(61, 2, 100);
+        x.hours(1);
+        due("one ton", x.of(61, 9), 1);
+        due("laid", x.lineOf(3, 1, 4), 2);
+        due("is wet", x.lineOf(3, 1, 5), 1);
+        days(x, 90);
+        due("lime, depth 100", x.carries(0), 1);
+        due("lime, depth 101", x.carries(1), 0);
+        due("new, depth 300", x.carries(2), 1);
+        due("new, depth 300", x.bears(2, 1) - x.lineOf(2, 1, 4), 49);
     }
 
     private static void crossing() {
@@ -813,6 +855,10 @@ public final class LowFallTest {
         x.set(0, 2, 700);
         x.hours(1);
         due("above the sill", x.count(5), 60);
+        due("lesser by one", x.out(0, 16, 9999, 1), 0);
+        due("one goes back", x.house(0, 1), 9);
+        due("foul doesn't", x.house(0, 0), 7);
+        x.out(0, 9999, 9999, 1);
         x.hours(1);
         due("comes back", x.count(6), 14);
         due("not gone", x.count(5), 60);
@@ -914,6 +960,15 @@ public final class LowFallTest {
         x.set(55, 5, 0);
         x.hours(24);
         due("no pump", x.count(14), 199 + 2 * 201);
+        // One ton in cellars is enough.
+        x.begin();
+        x.set(0, 2, 5100);
+        x.set(0, 5, 1);
+        x.hours(1);
+        due("one ton", x.of(0, 11), 1);
+        x.set(0, 2, 99);
+        x.hours(23);
+        due("ill", x.of(0, 16), 1);
     }
 
     private static void hoursAndBridge() {
@@ -1234,6 +1289,8 @@ public final class LowFallTest {
         choice(x, 9999999, 0, 0, 0);
         x.lift(5, 25, 1, 0);
         choice(x, 9999999, 0, 300, 0);
+        x.set(5, 2, 1);
+        choice(x, 9999999, 0, 1, 0);
 
         promise = "37, lines over the same cell";
         x = fouledCity();
@@ -1306,6 +1363,7 @@ public final class LowFallTest {
         due("share", x.share(9999999, 9), 9999999);
         due("share", x.share(9999999, 8), 0);
         x.set(95, 2, 1);
+        due("one lives there", x.share(7, 9), 7);
         x.set(15, 2, 1);
         x.set(57, 2, 1);
         due("of like ones the least", x.share(100, 1), 34);
@@ -1320,6 +1378,9 @@ public final class LowFallTest {
         due("the greatest remainder", x.share(10, 5), 3); // 2 6/7
         due("the greatest remainder", x.share(10, 9), 6); // 5 5/7
         due("nothing", x.share(0, 9), 0);
+        x.set(99, 2, 0); // 1, 2 and 1 of 4
+        due("by a remainder of one more", x.share(5, 5), 3); // 2 2/4
+        due("by a remainder of one less", x.share(5, 1), 1); // 1 1/4
         for (int c = 0; c < 100; c++) x.set(c, 2, 9999);
         due("share", x.share(9999999, 8), 1000000);
         due("share", x.share(9999999, 9), 999999);
@@ -1452,6 +1513,61 @@ public final class LowFallTest {
         x.begin();
         due("images outlast a beginning", x.back(0), 49);
         due("counts come back", x.count(1), counts[1]);
+    }
+
+    // A city with a line and a map of its own, in which a wall cracked for which the builder owes.
+    private static void otherCity(LowFall x, int at, int width, int cement) {
+        x.begin();
+        x.route(at, at + 2, 40 + width, 1);
+        x.take(width, cement);
+        x.gangs(0, 4);
+        x.kiln(9999);
+        x.set(at + 2, 2, 10 * width);
+        x.set(at + 2, 3, 0);
+        law(x, 1, 0, "1=1");
+        x.hours(24);
+        x.map(at, at + 1, width);
+        days(x, 1 + width);
+    }
+
+    private static void lookAtOther(LowFall x, int at, int width, int cement) {
+        due("hour", x.count(0), 24 * (2 + width));
+        due("cell", x.lineOf(0, 1, 0), at + 1);
+        due("invert", x.lineOf(0, 1, 1), 39 + width);
+        due("told", x.mapOf(at, 1, 1), width);
+        due("not told", x.mapOf(at, 1, 0), -9);
+        due("nor of the other", x.mapOf(70 - at, 1, 4999), -9);
+        due("owed by the builder", x.count(11), 10 * width * ((62 - width) / 2));
+        int laid = x.lineOf(0, 2, 4);
+        due("bears by its cement", x.bears(0, 2), laid + (cement == 0 ? (63 - width) / 2 : (62 - width - 10 + 5) / 6));
+        due("bricks by its width", x.best(9999999, 2) + x.count(15), 1);
+        x.gangs(0, 0);
+        x.tape(0, 5, 1);
+        x.put(0, 0, 1);
+        int dig = 0;
+        for (int i = 0; i < 3; i++) dig += x.lineOf(0, i, 2);
+        due("cost by its width", x.judge(0, dig + 30 * width - 1), -100);
+        due("cost by its width", x.judge(0, dig + 30 * width), 0);
+        x.gangs(0, 4);
+    }
+
+    private static void imagesOfTwoCities() {
+        promise = "41, 42, two cities";
+        LowFall x = new LowFall();
+        otherCity(x, 50, 1, 0);
+        x.keep(1);
+        otherCity(x, 20, 3, 1);
+        x.keep(2);
+        lookAtOther(x, 20, 3, 1);
+        x.back(1);
+        lookAtOther(x, 50, 1, 0);
+        x.back(2);
+        lookAtOther(x, 20, 3, 1);
+        due("owed by the builder", x.count(11) > 0 ? 1 : 0, 1);
+        x.begin();
+        due("begun, nobody owes", x.count(11) + x.count(12), 0);
+        x.back(1);
+        lookAtOther(x, 50, 1, 0);
     }
 
     private static void copies() {
