@@ -3,7 +3,7 @@ import java.util.Random;
 // Holds LowFall against SlowFall, the document written once more: the same calls to both, by fixed seeds,
 // each answer (or exception) compared, and at the end of a run all that can be asked.
 public final class ModelTest {
-    private static final int RUNS = 400, CALLS = 512;
+    private static final int CALLS = 512;
 
     private final Random random;
     private final LowFall fast = new LowFall();
@@ -19,9 +19,12 @@ public final class ModelTest {
         corner = 10 * random.nextInt(6) + random.nextInt(6);
     }
 
+    // Other seeds than those of .ci/run: the first and the last as arguments.
     public static void main(String[] args) {
+        int first = args.length == 2 ? Integer.parseInt(args[0]) : 1;
+        int last = args.length == 2 ? Integer.parseInt(args[1]) : 400;
         int failures = 0;
-        for (int seed = 1; seed <= RUNS && failures < 3; seed++) {
+        for (int seed = first; seed <= last && failures < 3; seed++) {
             ModelTest test = new ModelTest(seed);
             test.run();
             if (test.wrong) {
@@ -29,7 +32,7 @@ public final class ModelTest {
                 System.out.println("seed " + seed + ":\n" + test.told);
             }
         }
-        System.out.println(failures == 0 ? "model: " + RUNS + " runs agree" : "model: runs disagree");
+        System.out.println(failures == 0 ? "model: seeds " + first + " to " + last + " agree" : "model: runs disagree");
         if (failures != 0) System.exit(1);
     }
 
