@@ -1,9 +1,16 @@
+import java.lang.reflect.InvocationTargetException;
+import java.lang.reflect.Method;
+import java.lang.reflect.Modifier;
+import java.util.Arrays;
+import java.util.HashMap;
+import java.util.Map;
 import java.util.Random;
 
 // Holds LowFall against SlowFall, the document written once more: the same calls to both, by fixed seeds,
 // each answer (or exception) compared, and at the end of a run all that can be asked.
 public final class ModelTest {
     private static final int CALLS = 512;
+    private static final Map<String, Method> FACE = face();
 
     private final Random random;
     private final LowFall fast = new LowFall();
@@ -44,126 +51,31 @@ public final class ModelTest {
 
     // ---- one call to both
 
+    // Both have methods of the same names and kinds of arguments: those of the document's face.
     private static String answer(Object city, String name, long[] a) {
+        Method face = FACE.get(name);
+        Object[] given = new Object[a.length];
+        for (int i = 0; i < a.length; i++) {
+            Class<?> kind = face.getParameterTypes()[i];
+            if (kind == long.class) given[i] = a[i];
+            else if (kind == boolean.class) given[i] = a[i] == 1;
+            else given[i] = (int) a[i];
+        }
         try {
-            return "" + (city instanceof LowFall ? ask((LowFall) city, name, a) : ask((SlowFall) city, name, a));
-        } catch (IllegalArgumentException | IllegalStateException e) {
-            return e.getClass().getSimpleName();
+            return "" + city.getClass().getDeclaredMethod(name, face.getParameterTypes()).invoke(city, given);
+        } catch (InvocationTargetException e) {
+            Class<?> thrown = e.getCause().getClass();
+            boolean promised = Arrays.asList(face.getExceptionTypes()).contains(thrown);
+            return promised ? thrown.getSimpleName() : thrown + " out of " + city.getClass();
+        } catch (ReflectiveOperationException e) {
+            throw new IllegalStateException(e);
         }
     }
 
-    private static long ask(LowFall x, String name, long[] w) {
-        int[] a = ints(w);
-        switch (name) {
-            case "begin": return x.begin();
-            case "set": return x.set(a[0], a[1], a[2]);
-            case "of": return x.of(a[0], a[1]);
-            case "tide": return x.tide(a[0]);
-            case "level": return x.level(a[0]);
-            case "comesBack": return x.comesBack(a[0]);
-            case "window": return x.window(a[0], a[1]);
-            case "old": return x.old(a[0], a[1], a[2], a[3]);
-            case "map": return x.map(a[0], a[1], a[2]);
-            case "cut": return x.cut(a[0]);
-            case "mapOf": return x.mapOf(a[0], a[1], a[2]);
-            case "route": return x.route(a[0], a[1], a[2], a[3]);
-            case "way": return x.way(a[0]);
-            case "take": return x.take(a[0], a[1]);
-            case "lineOf": return x.lineOf(a[0], a[1], a[2]);
-            case "size": return x.size(a[0]);
-            case "gangs": return x.gangs(a[0], a[1]);
-            case "kiln": return x.kiln(a[0]);
-            case "bad": return x.bad(a[0], a[1], a[2] == 1);
-            case "bears": return x.bears(a[0], a[1]);
-            case "carries": return x.carries(a[0]);
-            case "cross": return x.cross(a[0], a[1], a[2]);
-            case "rain": return x.rain(a[0]);
-            case "lift": return x.lift(a[0], a[1], a[2], a[3]);
-            case "coal": return x.coal(a[0], a[1]);
-            case "stop": return x.stop(a[0], a[1] == 1);
-            case "lasts": return x.lasts(a[0], a[1]);
-            case "out": return x.out(a[0], a[1], a[2], a[3]);
-            case "house": return x.house(a[0], a[1]);
-            case "hours": return x.hours(a[0]);
-            case "bridge": return x.bridge(a[0]);
-            case "cutOff": return x.cutOff();
-            case "law": return x.law(a[0], a[1], a[2]);
-            case "inForce": return x.inForce(a[0], a[1]);
-            case "holds": return x.holds(a[0], a[1]);
-            case "best": return x.best(a[0], a[1]);
-            case "judge": return x.judge(a[0], a[1]);
-            case "share": return x.share(a[0], a[1]);
-            case "tape": return x.tape(a[0], a[1], a[2]);
-            case "keep": return x.keep(a[0]);
-            case "back": return x.back(a[0]);
-            case "toss": return x.toss(a[0]);
-            case "clear": return x.clear(a[0]);
-            case "put": return x.put(a[0], a[1], w[2]);
-            case "at": return x.at(a[0], a[1]);
-            case "copy": return x.copy(a[0], a[1], a[2], a[3], a[4]);
-            case "count": return x.count(a[0]);
-            default: throw new UnsupportedOperationException(name);
-        }
-    }
-
-    private static long ask(SlowFall x, String name, long[] w) {
-        int[] a = ints(w);
-        switch (name) {
-            case "begin": return x.begin();
-            case "set": return x.set(a[0], a[1], a[2]);
-            case "of": return x.of(a[0], a[1]);
-            case "tide": return x.tide(a[0]);
-            case "level": return x.level(a[0]);
-            case "comesBack": return x.comesBack(a[0]);
-            case "window": return x.window(a[0], a[1]);
-            case "old": return x.old(a[0], a[1], a[2], a[3]);
-            case "map": return x.map(a[0], a[1], a[2]);
-            case "cut": return x.cut(a[0]);
-            case "mapOf": return x.mapOf(a[0], a[1], a[2]);
-            case "route": return x.route(a[0], a[1], a[2], a[3]);
-            case "way": return x.way(a[0]);
-            case "take": return x.take(a[0], a[1]);
-            case "lineOf": return x.lineOf(a[0], a[1], a[2]);
-            case "size": return x.size(a[0]);
-            case "gangs": return x.gangs(a[0], a[1]);
-            case "kiln": return x.kiln(a[0]);
-            case "bad": return x.bad(a[0], a[1], a[2] == 1);
-            case "bears": return x.bears(a[0], a[1]);
-            case "carries": return x.carries(a[0]);
-            case "cross": return x.cross(a[0], a[1], a[2]);
-            case "rain": return x.rain(a[0]);
-            case "lift": return x.lift(a[0], a[1], a[2], a[3]);
-            case "coal": return x.coal(a[0], a[1]);
-            case "stop": return x.stop(a[0], a[1] == 1);
-            case "lasts": return x.lasts(a[0], a[1]);
-            case "out": return x.out(a[0], a[1], a[2], a[3]);
-            case "house": return x.house(a[0], a[1]);
-            case "hours": return x.hours(a[0]);
-            case "bridge": return x.bridge(a[0]);
-            case "cutOff": return x.cutOff();
-            case "law": return x.law(a[0], a[1], a[2]);
-            case "inForce": return x.inForce(a[0], a[1]);
-            case "holds": return x.holds(a[0], a[1]);
-            case "best": return x.best(a[0], a[1]);
-            case "judge": return x.judge(a[0], a[1]);
-            case "share": return x.share(a[0], a[1]);
-            case "tape": return x.tape(a[0], a[1], a[2]);
-            case "keep": return x.keep(a[0]);
-            case "back": return x.back(a[0]);
-            case "toss": return x.toss(a[0]);
-            case "clear": return x.clear(a[0]);
-            case "put": return x.put(a[0], a[1], w[2]);
-            case "at": return x.at(a[0], a[1]);
-            case "copy": return x.copy(a[0], a[1], a[2], a[3], a[4]);
-            case "count": return x.count(a[0]);
-            default: throw new UnsupportedOperationException(name);
-        }
-    }
-
-    private static int[] ints(long[] w) {
-        int[] a = new int[w.length];
-        for (int i = 0; i < w.length; i++) a[i] = (int) w[i];
-        return a;
+    private static Map<String, Method> face() {
+        Map<String, Method> face = new HashMap<>();
+        for (Method m : LowFall.class.getDeclaredMethods()) if (Modifier.isPublic(m.getModifiers())) face.put(m.getName(), m);
+        return face;
     }
 
     private String call(String name, long... a) {
@@ -174,7 +86,7 @@ public final class ModelTest {
     private String compare(String name, long... a) {
         if (wrong) return "";
         String mine = answer(fast, name, a), due = answer(slow, name, a);
-        told.append(name).append(java.util.Arrays.toString(a)).append(" = ").append(mine);
+        told.append(name).append(Arrays.toString(a)).append(" = ").append(mine);
         if (!mine.equals(due)) {
             told.append(", due is ").append(due);
             wrong = true;
