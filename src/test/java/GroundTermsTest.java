@@ -22,6 +22,7 @@ public final class GroundTermsTest extends Due {
         wet();
         pulls();
         cracks();
+        openedAtLast();
         owed();
         strengths();
         carrying();
@@ -586,6 +587,23 @@ public final class GroundTermsTest extends Due {
         due(x.count(12), 20);
     }
 
+    private static void openedAtLast() {
+        says("if that makes it DIG or more, it is OPENED (to the ton)");
+        for (int height = 99; height <= 101; height++) { // digs 38, 40 and 42
+            LowFall x = new LowFall();
+            x.set(1, 0, height);
+            x.set(1, 2, 1);
+            x.set(1, 3, 0);
+            x.route(0, 1, 81, 1);
+            x.take(1, 0);
+            x.gangs(0, 1);
+            x.hours(24);
+            due(x.count(13), height <= 100 ? 1 : 0);
+            x.hours(24);
+            due(x.count(13), 1);
+        }
+    }
+
     private static void owed() {
         says("PEOPLE times what is above is owed, by the BUILDER if OWE (IV) holds there, else by the TOWN");
         LowFall x = new LowFall();
@@ -632,6 +650,11 @@ public final class GroundTermsTest extends Due {
         due(ageToBear(laid(0, 99, false, false)), 50);
         due(ageToBear(laid(0, 100, false, false)), 50);
         due(ageToBear(laid(0, 101, false, false)), LowFall.UNABLE);
+        LowFall old = laid(0, 100, false, false);
+        days(old, 60);
+        due(old.carries(0), 1);
+        old.set(0, 0, 201); // it grows no more
+        due(old.carries(0), 0);
         says("half (cut) of that if WET");
         due(ageToBear(laid(0, 1, true, false)), 1);
         due(ageToBear(laid(0, 2, true, false)), 2);

@@ -81,6 +81,37 @@ public final class PromiseTest extends Due {
         due(x.clear(3), 6);
         due(x.clear(5), 1);
         due(x.begin(), 0);
+        // A city that is made after another one is as if it had been the first.
+        x = new LowFall();
+        BusyCity.makeOther(x);
+        x.begin();
+        BusyCity.make(x);
+        x.clear(4);
+        due(BusyCity.look(x).equals(BusyCity.look(BusyCity.made())) ? 1 : 0, 1);
+        LowFall other = new LowFall();
+        x = BusyCity.made();
+        x.begin();
+        BusyCity.makeOther(x);
+        BusyCity.makeOther(other);
+        for (int d = 0; d < 5; d++) x.clear(d);
+        due(BusyCity.look(x).equals(BusyCity.look(other)) ? 1 : 0, 1);
+        // What a line of the time before had, a new one hasn't.
+        x = new LowFall();
+        for (int turn = 0; turn < 2; turn++) {
+            x.begin();
+            x.set(1, 2, turn == 0 ? 100 : 0);
+            x.route(0, 1, 101, 1);
+            x.take(1, 0);
+            due(x.gangs(0, 1), 0);
+            x.kiln(100);
+            x.hours(24);
+            due(x.lineOf(0, 1, 5), turn == 0 ? 1 : 0);
+            due(x.lineOf(0, 1, 6), 0);
+            due(x.lineOf(0, 0, 3), 0);
+            due(x.lineOf(0, 0, 4), -9);
+            x.bad(0, 1, true);
+            x.hours(24);
+        }
     }
 
     private static void setAndOf() {
@@ -196,6 +227,11 @@ public final class PromiseTest extends Due {
         due(x.mapOf(0, 0, 4999), -1);
         due(x.mapOf(0, 1, 4999), 6);
         due(x.mapOf(99, 0, 1), 89);
+        LowFall once = new LowFall();
+        once.map(3, 4, 77);
+        due(once.mapOf(3, 0, 0), 4);
+        due(once.mapOf(3, 1, 0), 77);
+        due(once.mapOf(4, 1, 0), -9);
         due(x.mapOf(0, 2, 1), NONE);
         due(x.mapOf(0, -1, 1), NONE);
         due(x.mapOf(0, 0, 5000), NONE);
@@ -720,6 +756,26 @@ public final class PromiseTest extends Due {
         due(x.back(4), 37); // as often as one likes
         due(x.back(2), LowFall.NOTHING);
         due(x.back(5), LowFall.CAST);
+        LowFall other = new LowFall();
+        BusyCity.makeOther(other);
+        other.keep(4);
+        other.begin();
+        BusyCity.make(other); // and on tape 0 an image of it
+        other.back(4);
+        LowFall first = BusyCity.made();
+        first.keep(4);
+        first.begin();
+        BusyCity.makeOther(first);
+        first.back(4);
+        LowFall never = BusyCity.made();
+        for (LowFall y : new LowFall[] {other, first, never}) {
+            for (int d = 0; d < 6; d++) y.clear(d);
+        }
+        due(BusyCity.look(first).equals(BusyCity.look(never)) ? 1 : 0, 1);
+        never = new LowFall();
+        BusyCity.makeOther(never);
+        never.clear(5);
+        due(BusyCity.look(other).equals(BusyCity.look(never)) ? 1 : 0, 1);
         says("43: how many CELLS have FOUL in cellars there");
         due(x.toss(4), 1);
         x.set(99, 2, 5000);
@@ -784,9 +840,28 @@ public final class PromiseTest extends Due {
         due(x.count(2) - x.count(4), x.count(8));
         due(x.count(5), 20);
         due(x.count(6), 0);
+        due(x.count(7), x.of(0, 9) + x.of(0, 11) + x.of(50, 9) + x.of(50, 11) + x.house(50, 0));
         levels(x, 0, 1);
         x.hours(2);
         due(x.count(6), 2); // at the even hour alone the gate is open
+        x = new LowFall();
+        x.set(0, 2, 4000);
+        x.rain(3);
+        x.out(0, 35, 1, -128);
+        x.hours(3);
+        due(x.house(0, 0), 35);
+        due(x.of(0, 9), 50);
+        due(x.of(0, 11), 35);
+        due(x.count(7), 120);
+        x.set(0, 2, 0);
+        x.out(0, 50, 1, -128);
+        x.hours(1);
+        due(x.house(0, 1) + x.of(0, 10) + x.of(0, 12), 12);
+        due(x.count(8), 1200);
+        x.out(1, 2, 1, -128);
+        x.hours(1);
+        due(x.house(1, 1), 2);
+        due(x.count(8), 1500);
         says("48: 9 bricks in THE KILN, 10 IDLE GANGS by DAYS, ... 13 CELLS that CRACKED, 14 ILL, 15 LINES, 16 LAWS, 17 tellings of THE MAP");
         x = new LowFall();
         x.kiln(99);

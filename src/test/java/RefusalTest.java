@@ -15,7 +15,7 @@ public final class RefusalTest extends Due {
     private static Supplier<LowFall> city;
 
     public static void main(String[] args) {
-        city = RefusalTest::busyCity;
+        city = BusyCity::made;
         ground();
         tides();
         drains();
@@ -47,85 +47,9 @@ public final class RefusalTest extends Due {
         due(got.equals(answer) ? 1 : 0, 1);
         boolean hosts = answer.startsWith("-1") && answer.length() == 3;
         due(asked.count(18) - other.count(18), hosts ? 1 : 0);
-        String is = look(asked), was = look(other);
+        String is = BusyCity.look(asked), was = BusyCity.look(other);
         if (!is.equals(was)) System.out.println("it is   " + is + "\nit was  " + was);
         due(is.equals(was) ? 1 : 0, 1);
-    }
-
-    // ---- a city where there is something of all, and what can be asked of it
-
-    private static LowFall busyCity() {
-        LowFall x = new LowFall();
-        x.set(0, 2, 6000);
-        x.set(0, 3, 0);
-        x.set(2, 2, 150);
-        x.set(1, 5, 1);
-        x.set(33, 4, 1);
-        x.set(34, 2, 900);
-        x.old(0, 1, 90, 1);
-        x.old(34, 33, 80, 2);
-        x.map(0, 1, 90);
-        x.map(34, 24, 70);
-        levels(x, 3, -2, 5);
-        law(x, 1, "p>99");
-        x.rain(2);
-        x.lift(20, 21, 5, 9);
-        x.stop(20, true);
-        x.out(34, 20, 3, 9);
-        x.kiln(300);
-        x.bridge(7);
-        x.route(2, 0, 60, 1);
-        x.take(2, 1);
-        x.gangs(0, 3);
-        x.route(50, 51, 101, 1);
-        x.take(1, 0);
-        x.gangs(1, 1);
-        x.hours(74);
-        x.gangs(0, 2);
-        x.keep(0);
-        row(x, 1, 1, 5, -6);
-        row(x, 2, 3, 7, 8, 9);
-        row(x, 3, 5, 1, 0);
-        text(x, 5, "h>5");
-        x.route(60, 62, 90, 1);
-        return x;
-    }
-
-    private static String look(LowFall x) {
-        StringBuilder seen = new StringBuilder();
-        for (int what = 0; what <= 17; what++) seen.append(x.count(what)).append(' ');
-        for (int cell : new int[] {0, 2, 34, 51}) for (int what = 0; what <= 16; what++) seen.append(x.of(cell, what)).append(' ');
-        for (int cell : new int[] {0, 34}) seen.append(x.mapOf(cell, 0, 4999)).append(' ').append(x.mapOf(cell, 1, 4999)).append(' ');
-        for (int i = 0; i < 4; i++) seen.append(x.way(i)).append(' ').append(x.level(i)).append(' ');
-        for (int kind = 0; kind < 3; kind++) seen.append(x.inForce(kind, 4999)).append(' ');
-        for (int line = 0; line < Math.min(2, x.count(15)); line++) {
-            for (int i = 0; i < 2; i++) for (int what = 0; what <= 6; what++) seen.append(x.lineOf(line, i, what)).append(' ');
-        }
-        for (int what = 0; what < 2; what++) seen.append(asked(x, 34, what)).append(asked(x, 20, 2 + what));
-        for (int d = 0; d < 6; d++) seen.append(x.toss(d)).append(' ');
-        for (int d = 1; d < 6; d++) for (int i = 0; i < 4; i++) seen.append(rowAt(x, d, i));
-        seen.append(x.cutOff()).append(' ').append(x.best(9999999, 2)).append(' ').append(x.size(0)).append(' ');
-        seen.append(x.gangs(0, 1)).append(' ').append(x.kiln(50)).append(' ').append(x.rain(1)).append(' ').append(x.bridge(3)).append(' ');
-        x.hours(24);
-        for (int what = 0; what <= 17; what++) seen.append(x.count(what)).append(' ');
-        for (int d = 0; d < 6; d++) seen.append(x.clear(d)).append(' ');
-        return seen.toString();
-    }
-
-    private static String asked(LowFall x, int cell, int what) {
-        try {
-            return x.house(cell, what) + " ";
-        } catch (IllegalStateException e) {
-            return "none ";
-        }
-    }
-
-    private static String rowAt(LowFall x, int d, int i) {
-        try {
-            return x.at(d, i) + " ";
-        } catch (IllegalStateException e) {
-            return "none ";
-        }
     }
 
     // ---- what is refused, method by method
@@ -399,6 +323,8 @@ public final class RefusalTest extends Due {
             x.set(0, 2, 0);
             x.set(2, 2, 0);
             x.set(34, 2, 0);
+            x.set(43, 2, 0);
+            x.set(10, 2, 0);
             return x;
         };
         refused(x -> x.share(0, 0), LowFall.ZERO);
@@ -601,7 +527,24 @@ public final class RefusalTest extends Due {
         refused(x -> x.out(0, 1, 1, 128), NONE);
         refused(x -> x.lift(50, 1, 1, 1), UNABLE);
         refused(x -> x.out(40, 1, 1, 1), UNABLE);
+        city = () -> {
+            LowFall x = new LowFall();
+            for (int c = 0; c < 12; c++) x.out(9 * c, 1, 1, 0); // 0 and 99 among them
+            return x;
+        };
+        refused(x -> x.out(1, 1, 1, 1), FULL);
+        refused(x -> x.lift(98, 1, 1, 1), FULL);
         says("in place of one of the 12 there is room");
+        due(city.get().out(0, 1, 1, 1), 0);
+        due(city.get().out(99, 1, 1, 1), 0);
+        city = () -> {
+            LowFall x = new LowFall();
+            for (int c = 40; c < 46; c++) {
+                x.lift(c, 0, 1, 1);
+                x.out(10 + c, 1, 1, 0);
+            }
+            return x;
+        };
         due(city.get().lift(40, 1, 9, 9), 0);
         due(city.get().out(55, 9, 9, 9), 0);
     }

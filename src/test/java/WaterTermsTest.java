@@ -215,6 +215,15 @@ public final class WaterTermsTest extends Due {
         x.take(1, 0);
         x.gangs(1, 1);
         isFact(x, 8, "u=1"); // one cell, though of two lines
+        x = new LowFall();
+        int[] shut = {34, 43, 45, 54};
+        for (int k = 0; k < 4; k++) {
+            x.route(44, shut[k], 90, 1);
+            x.take(1, 0);
+            x.gangs(k, 1);
+            isFact(x, 44, "u=" + (k + 1));
+            for (int other : new int[] {34, 43, 45, 54}) isFact(x, other, "u=0");
+        }
     }
 
     private static void deep() {
@@ -377,9 +386,13 @@ public final class WaterTermsTest extends Due {
         due(x.of(1, 9), 10); // it goes one cell an hour
         due(x.of(2, 9), 0);
         x.set(0, 2, 0);
+        x.old(10, 0, 90, 9);
+        x.set(10, 2, 700);
+        x.old(0, -1, 90, 9);
         x.hours(1);
         due(x.of(1, 9), 0);
         due(x.of(2, 9), 10);
+        due(x.of(0, 9), 7);
         x.lift(2, 9, 5, 0);
         x.hours(1);
         due(x.of(2, 9), 10); // a lift without coal, and no letting on beside it
@@ -715,6 +728,14 @@ public final class WaterTermsTest extends Due {
         due(x.of(0, 11), 0);
         due(x.of(0, 12) > 0 ? 1 : 0, 1);
         due(x.of(0, 16), 0);
+        x = new LowFall(); // without a PUMP nobody drinks
+        x.set(0, 2, 9999);
+        x.set(0, 5, 1);
+        x.hours(24);
+        x.set(0, 5, 0);
+        x.hours(24);
+        due(x.of(0, 16), 199);
+        due(x.count(14), 199);
         says("then ILL there are PEOPLE / 50 more");
         due(ill(44, 44, 99, 0), 0);
         due(ill(44, 44, 99, 49), 0);
@@ -779,6 +800,17 @@ public final class WaterTermsTest extends Due {
         due(x.best(0, 1), 99);
         x.lift(50, 51, 1, 0);
         due(x.best(0, 1), 99 - 60); // those before it and it go round now
+        x = new LowFall(); // whatever cell is asked first
+        x.set(11, 4, 1);
+        x.old(10, 11, 0, 0);
+        x.old(20, 10, 0, 0);
+        x.old(0, 10, 0, 0);
+        x.old(30, 20, 0, 0);
+        for (int c = 0; c < 40; c += 10) x.set(c, 2, 1 + c);
+        due(x.best(0, 1), 1 + 11 + 21 + 31);
+        x.set(10, 2, 0);
+        x.set(0, 2, 0);
+        due(x.best(0, 1), 21 + 31);
         says("(a CELL with OUT: it ends well; with LIFT: to its TO)");
         x = new LowFall();
         x.set(0, 2, 7);
@@ -834,6 +866,9 @@ public final class WaterTermsTest extends Due {
         due(x.best(22, 0), 2); // 6 of them rather than 5
         due(x.best(22, 1), 5);
         due(x.best(22, 2), 22);
+        x.set(0, 2, 7);
+        due(x.best(22, 0), 1);
+        x.set(0, 2, 5);
         due(x.best(43, 0), 2);
         due(x.best(44, 0), 3);
         due(x.best(44, 1), 0);
@@ -855,8 +890,7 @@ public final class WaterTermsTest extends Due {
         due(x.best(9999999, 0), 4);
         for (int k = 4; k < 8; k++) x.take(1, 0);
         due(x.best(9999999, 0), 4);
-        x.set(4, 2, 1); // only the eighth leads from there
-        x.begin();
+        x.begin(); // only the eighth leads from there
         x.set(0, 2, 5);
         x.set(10, 4, 1);
         x.old(0, 10, 0, 1);
@@ -865,6 +899,10 @@ public final class WaterTermsTest extends Due {
         x.route(0, 1, 100, 1);
         x.take(1, 0);
         due(x.best(9999999, 0), 128);
+        due(x.best(9999999, 2), 22);
+        says("of like ones none at all: it costs nothing");
+        x.set(0, 2, 0);
+        for (int what = 0; what < 3; what++) due(x.best(9999999, what), 0);
     }
 
     private static void rates() {
@@ -886,6 +924,13 @@ public final class WaterTermsTest extends Due {
             due(x.share(sum, 1), due[sum][1]);
             due(x.share(sum, 9), due[sum][2]);
         }
+        x.set(9, 2, 2); // 2 and 3 of 5
+        x.set(10, 2, 3);
+        x.set(99, 2, 0);
+        due(x.share(3, 0), 1); // 1 1/5, 1 4/5
+        due(x.share(4, 0), 2); // 1 3/5, 2 2/5: by one fifth
+        due(x.share(1, 1), 1); // 2/5, 3/5
+        due(x.share(1, 0), 0);
         says("(of like ones the least)");
         for (int c = 0; c < 100; c++) x.set(c, 2, 3);
         for (int y = 0; y < 10; y++) {
