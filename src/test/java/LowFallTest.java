@@ -1183,6 +1183,7 @@ public final class LowFallTest {
         says(x, 7, "u=2", true);
 
         promise = "36, reckoning";
+        x = new LowFall();
         says(x, 7, "2+3*4=20", true);
         says(x, 7, "2-3-4=0-5", true);
         says(x, 7, "2*3-4=2", true);
