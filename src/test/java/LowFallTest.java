@@ -1205,7 +1205,7 @@ public final class LowFallTest {
         says(x, 7, "1000*1000+1>1000*1000", false);
         says(x, 7, "1000*1000-1<1000*1000", true);
         // A unit alone is as it is, were it more than a sum may be.
-        x.begin();
+        x = new LowFall();
         x.set(0, 2, 9999);
         x.rain(200);
         for (int i = 0; i < 18; i++) x.hours(240);
