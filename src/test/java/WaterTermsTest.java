@@ -27,7 +27,7 @@ public final class WaterTermsTest extends Due {
         rates();
         tapes();
         refusalsOfTheHost();
-        end("terms IV to VIII");
+        end("terms IV to VII");
     }
 
     // ---- IV
