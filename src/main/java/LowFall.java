@@ -847,7 +847,7 @@ public final class LowFall {
 
         // The place of the cell in work, or -1 when all is laid.
         int inWork() {
-            return Math.min(unlaid, LONGEST) - 1;
+            return unlaid <= LONGEST ? unlaid - 1 : -1;
         }
 
         int strength(int i, int age) {
